@@ -1,11 +1,5 @@
 /** For each promise of the document: ordinary inputs, the edges that it names, wrong inputs. */
-public final class PromiseTest {
-    private static final int NONE = -1;
-    private static final int UNKNOWN = -1000000001;
-    private static final int OUTSIDE = -1000000002;
-    private static final int NOT = -1000000003;
-    private static final int FULL = -1000000004;
-
+public final class PromiseTest implements Answers {
     /** Two gates; 0 and 2 outside, 1 and 3 inside, 1 has a cold; all WOULD meet across, 0 with 1 most. */
     private static final String FOUR = "g3;g5;p0 0;p1 1;p0 0;p1 0;"
         + "l0 1 4;l1 0 4;l0 3 1;l3 0 1;l2 1 2;l1 2 3;l2 3 5;l3 2 1;";
@@ -711,18 +705,12 @@ public final class PromiseTest {
         Due.is("sides do not count", three.loves(-1), 3);
     }
 
-    private static void meet(KissGates x, int p, int q) {
-        x.come(p, 0);
-        x.come(q, 0);
-        x.hour(1);
-    }
-
     /** 0 with 1, then 1 with 2, as told in THE LOG; 0 outside, 1, 2 and 3 as they come. */
     private static KissGates chain(String colds) {
         KissGates x = Due.of("g9;p0 " + colds.charAt(0) + ";p1 " + colds.charAt(1) + ";p1 " + colds.charAt(2)
             + ";p0 0;l0 1 1;l1 0 1;l1 2 1;l2 1 1;");
-        meet(x, 0, 1);
-        meet(x, 1, 2);
+        Due.meet(x, 0, 1);
+        Due.meet(x, 1, 2);
         Due.is("two met", x.told(4), 2);
         return x;
     }
@@ -852,7 +840,7 @@ public final class PromiseTest {
         Due.is("nobody left", x.ask(), NONE);
         KissGates y = Due.of("g9;p1 0;p0 0;p0 0;p1 0;l1 3 1;l3 1 1;");
         Due.is("all alike: the least", y.ask(), 0);
-        meet(y, 1, 3);
+        Due.meet(y, 1, 3);
         Due.is("1 parts two from two", y.ask(), 1);
         Due.is("one person alone", Due.of("p0 0;").ask(), NONE);
     }

@@ -18,6 +18,7 @@ final class EdgesOfTrials implements Answers {
         sidesNobodyTwiceAnHour();
         steadyByMoreAlone();
         steadyWithNoneIs0();
+        steadyToTheLastOfSeven();
         lovesFromMinus1ToTheLast();
         lovesBy1OrMore();
         lovesNobodyMore();
@@ -244,6 +245,15 @@ final class EdgesOfTrials implements Answers {
         KissGates rather = Due.of("g9;g9;p1 0;p0 0;p0 0;l0 1 3;l1 0 1;l2 0 9;l0 2 2;");
         Due.is("0 is with 2", rather.atOnce(0), 2);
         Due.promise(20, "0 and 1, who is with none, would rather", rather.steady(), 0);
+    }
+
+    private static void steadyToTheLastOfSeven() {
+        String lastTwo = "p0 0;p0 0;p0 0;p0 0;p0 0;p1 0;p0 0;" + fond(5, 6, 1);
+        Due.promise(20, "the last two of seven, no GATE", Due.of(lastTwo).steady(), 0);
+        Due.promise(20, "the last two of seven, one GATE", Due.of("g9;" + lastTwo).steady(), 1);
+        String firstAndLast = "p0 0;p0 0;p0 0;p0 0;p0 0;p0 0;p1 0;" + fond(0, 6, 1);
+        Due.promise(20, "the first and the last of seven, no GATE", Due.of(firstAndLast).steady(), 0);
+        Due.promise(20, "the first and the last of seven, one GATE", Due.of("g9;" + firstAndLast).steady(), 1);
     }
 
     private static void lovesFromMinus1ToTheLast() {
